@@ -667,13 +667,28 @@ public final class WaterReview {
             return NONE;
         }
 
-        /** The homes of all kinds that are KNOWN of a YEAR; NONE if none of a kind is. */
-        int homesKnownBy(int firm, int year, int day) {
-            int all = NONE;
-            for (int kind = 0; kind < HOME_KINDS; kind++) {
-                int homes = knownBy(firm, year, HOMES + kind, day);
-                if (homes != NONE) {
-                    all = Math.max(all, 0) + homes;
+        /** What is KNOWN of the latest YEAR up to one that has any; 0 without. */
+        int latestUpTo(int firm, int lastYear, int what, int day) {
+            for (int year = lastYear; year >= 0; year--) {
+                int v = knownBy(firm, year, what, day);
+                if (v != NONE) {
+                    return v;
+                }
+            }
+            return 0;
+        }
+
+        /** The homes of all kinds of the latest YEAR up to one that has any; 0 without. */
+        int latestHomesUpTo(int firm, int lastYear, int day) {
+            boolean hasAny = false;
+            int all = 0;
+            for (int year = lastYear; year >= 0 && !hasAny; year--) {
+                for (int kind = 0; kind < HOME_KINDS; kind++) {
+                    int homes = knownBy(firm, year, HOMES + kind, day);
+                    if (homes != NONE) {
+                        hasAny = true;
+                        all += homes;
+                    }
                 }
             }
             return all;
@@ -1517,27 +1532,13 @@ public final class WaterReview {
         private void findWords(int year) {
             words[0] = year;
             words[1] = firm;
-            words[2] = homesUpTo(year);
+            words[2] = register.facts.latestHomesUpTo(firm, year, decidedOn(year));
             words[3] = worths[year];
             words[4] = register.works.countLate(firm, year);
         }
 
-        private int homesUpTo(int lastYear) {
-            for (int year = lastYear; year >= 0; year--) {
-                int homes = register.facts.homesKnownBy(firm, year, decidedOn(lastYear));
-                if (homes != NONE) {
-                    return homes;
-                }
-            }
-            return 0;
-        }
-
-        private static boolean isYear(int year) {
-            return year >= 0 && year < YEARS;
-        }
-
         private RuleBook bookOf(int year) {
-            return isYear(year) ? books[year / REVIEW_YEARS] : null;
+            return year >= 0 && year < YEARS ? books[year / REVIEW_YEARS] : null;
         }
 
         private static int decidedOn(int year) {
@@ -1558,7 +1559,8 @@ public final class WaterReview {
 
         /** The number of "return", "index" .. "log" that holds, or what is due without. */
         private int numberAt(int year, int kind) {
-            return isYear(year) && kind >= RETURN && kind < KINDS ? numbers[year][kind] : 0;
+            boolean isThere = year >= 0 && year < YEARS && kind >= RETURN && kind < KINDS;
+            return isThere ? numbers[year][kind] : 0;
         }
 
         long worthAt(int year) {
@@ -1576,13 +1578,13 @@ public final class WaterReview {
 
         /** What the mode of an "allow" tells, ahead of its hundredths. */
         private long toldBy(Rule rule, int year) {
-            int head = rule.of;
+            int decided = decidedOn(year);
             if (rule.mode == BY_PLAN) {
-                int plan = register.facts.knownBy(firm, year, PLAN + head, decidedOn(year));
-                return Math.max(0, plan);
+                int plan = register.facts.knownBy(firm, year, PLAN + rule.of, decided);
+                return plan == NONE ? 0 : plan;
             }
-            points.gather(firm, head, year / REVIEW_YEARS, rule.driver);
-            int x = driverUpTo(year, rule.driver);
+            points.gather(firm, rule.of, year / REVIEW_YEARS, rule.driver);
+            int x = register.facts.latestUpTo(firm, year, rule.driver, decided);
             switch (rule.mode) {
                 case BY_LINE:
                     return points.lineTells(x);
@@ -1591,16 +1593,6 @@ public final class WaterReview {
                 default:
                     return points.bestTells(x);
             }
-        }
-
-        private int driverUpTo(int lastYear, int driver) {
-            for (int year = lastYear; year >= 0; year--) {
-                int x = register.facts.knownBy(firm, year, driver, decidedOn(lastYear));
-                if (x != NONE) {
-                    return x;
-                }
-            }
-            return 0;
         }
 
         /** Fills the LINES of the YEARS from one to another one. */
