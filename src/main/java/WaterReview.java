@@ -1509,6 +1509,9 @@ public final class WaterReview {
         }
 
         private void settle(int year) {
+            if (year < 0 || year >= YEARS) {
+                return;
+            }
             int[] places = standing[year];
             int[] told = numbers[year];
             Arrays.fill(places, NONE);
@@ -1522,8 +1525,12 @@ public final class WaterReview {
             findWords(year);
             for (int i = 0; i < book.size; i++) {
                 Rule rule = book.at(i);
-                if (rule != null && rule.stands(words)) {
-                    places[rule.slot()] = i;
+                if (rule == null || !rule.stands(words)) {
+                    continue;
+                }
+                int slot = rule.slot();
+                if (slot >= 0 && slot < SLOTS && rule.kind >= 0 && rule.kind < KINDS) {
+                    places[slot] = i;
                     told[rule.kind] = rule.number;
                 }
             }
@@ -1608,6 +1615,9 @@ public final class WaterReview {
         }
 
         private void fillLinesOf(int year) {
+            if (year < 0 || year >= YEARS) {
+                return;
+            }
             long[] row = lines[year];
             Arrays.fill(row, 0);
             long inAllHeads = 0;
@@ -1659,7 +1669,7 @@ public final class WaterReview {
 
         private long sharedIn(int year, int head) {
             int cost = register.facts.knownBy(firm, year, COST + head, day);
-            if (cost == NONE) {
+            if (cost == NONE || year < 0 || year >= YEARS || head < 0 || head >= HEADS) {
                 return 0;
             }
             long other = cost - allowedCoins[year][head];

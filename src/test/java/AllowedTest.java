@@ -105,6 +105,8 @@ final class AllowedTest {
         Check.due("as dear: the first one", x.allowed(0, 0, 5, 0), 333);
         point(x, 3, 2, 7, 232);
         Check.due("232 by 7 is less", x.allowed(0, 0, 5, 0), 331);
+        point(x, 3, 3, 1, 34);
+        Check.due("34 by 1 is more", x.allowed(0, 0, 5, 0), 331);
         point(x, 2, 3, 999, 33999);
         Check.due("33,999 by 999 is more", x.allowed(0, 0, 5, 0), 331);
         point(x, 2, 3, 5, 0);
@@ -279,6 +281,9 @@ final class AllowedTest {
         Check.due("none", x.points(1, 0, 1, 0, 0), 0);
         Check.due("firm 2", x.points(2, 0, 1, 0, 0), -1);
         Check.due("firm -1", x.points(-1, 0, 1, 0, 0), -1);
+        x.fact(1, 0, 7, 100);
+        x.fact(1, 0, 2, 100);
+        Check.due("driver 2", x.points(0, 0, 1, 2, 1), 100);
         Check.due("head 4", x.points(0, 4, 1, 0, 0), -1);
         Check.due("head -1", x.points(0, -1, 1, 0, 0), -1);
         Check.due("review 3", x.points(0, 0, 3, 0, 0), -1);
@@ -326,6 +331,9 @@ final class AllowedTest {
             Check.due("what " + what, x.span(0, 0, 1, 0, 0, what), 0);
             Check.due("its own alone " + what, x.span(1, 0, 1, 0, 5, what), -1);
         }
+        x.fact(1, 0, 7, 100);
+        x.fact(1, 0, 2, 100);
+        Check.due("driver 2", x.span(0, 0, 1, 2, 50, 0), 5);
         Check.due("x 999", x.span(0, 0, 1, 0, 999, 0), 4995);
         Check.due("x 1,000", x.span(0, 0, 1, 0, 1000, 0), -1);
         Check.due("x -1", x.span(0, 0, 1, 0, -1, 0), -1);
@@ -384,6 +392,8 @@ final class AllowedTest {
         Check.due("no POINTS", x.moves(0, 0, 1), -1);
         point(x, 1, 0, 5, 50);
         Check.due("a POINT", x.moves(0, 0, 1), 0);
+        x.fact(1, 0, 7, 100);
+        x.fact(1, 0, 2, 100);
         Check.due("its own alone", x.moves(1, 0, 1), -1);
         Check.due("REVIEW 0 has no years ahead", x.moves(0, 0, 0), -1);
         Check.due("firm 2", x.moves(2, 0, 1), -1);

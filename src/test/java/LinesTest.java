@@ -231,6 +231,7 @@ final class LinesTest {
         shares(x, 1100, 67);
         shares(x, 1010, 7);
         shares(x, 1002, 2);
+        shares(x, 1001, 1);
         shares(x, 900, -23);
         shares(x, 990, -3);
         shares(x, 999, -1);
@@ -244,6 +245,11 @@ final class LinesTest {
         Check.due("without share all, below", x.line(0, 4, 0, 10), -20);
         x.fact(0, 3, 6, 55);
         Check.due("without allow all", x.line(0, 4, 0, 13), 55);
+        WaterReview z = firm(0, "share run 100 0;");
+        z.fact(0, 3, 3, 1);
+        Check.due("1 is borne", z.line(0, 4, 0, 10), 0);
+        z.bench(0, 0, 3, 2);
+        Check.due("1 below", z.line(0, 4, 0, 10), -1);
         WaterReview y = firm(0, "share run 100 0 unless year=5;share run 0 100 unless year<5;");
         y.fact(0, 4, 3, 50);
         y.fact(0, 5, 3, 50);
@@ -472,6 +478,12 @@ final class LinesTest {
         x.fact(0, 4, 12, 3);
         x.fact(0, 4, 11, 1);
         homes(x, 4, 3, -531, -797, -1328, -2923 + 531 + 3 * 797);
+        x.firm(0);
+        x.fact(1, 0, 11, 7);
+        x.work(1, 70, 0);
+        Check.due("of firm 1", x.home(1, 0, 3, 0), 10);
+        x.firm(9);
+        Check.due("of firm 2", x.home(2, 0, 3, 3), 0);
     }
 
     private static void promise22NoneSuch() {
@@ -549,6 +561,8 @@ final class LinesTest {
         Check.due("kind 2 of BACK: -495 by 13, cut", x.who(0, 2, 7, 2, 6), -38);
         Check.due("as KNOWN by 6", x.who(0, 2, 6, 2, 6), -45);
         Check.due("line 14", x.who(0, 2, 7, 0, 14), 0);
+        x.bench(0, 0, 2, 130);
+        Check.due("line 0", x.who(0, 2, 7, 1, 0), 30);
         Check.due("line 15", x.who(0, 2, 7, 0, 15), NO);
         Check.due("line -1", x.who(0, 2, 7, 0, -1), NO);
         Check.due("kind 3", x.who(0, 2, 7, 3, 4), NO);

@@ -28,6 +28,8 @@ final class ModelTest {
     /** How large the numbers of a run are: 0 small, 1 of all sizes, 2 at their edges. */
     private int sizes;
     private int firms;
+    /** How many of a hundred numbers asked by are none such. */
+    private int wild;
     private String last = "";
 
     private ModelTest() {
@@ -70,6 +72,7 @@ final class ModelTest {
         x = new WaterReview();
         m = new Model();
         sizes = below(3);
+        wild = in(10) ? 25 : 2;
         firms = in(10) ? 11 : 1 + below(5);
         int calls = 0;
         for (int f = 0; f < firms; f++) {
@@ -178,7 +181,7 @@ final class ModelTest {
             case 'c' -> 10;
             default -> throw new IllegalStateException();
         };
-        if (in(2)) {
+        if (in(wild)) {
             return in(50) ? -1 : in(50) ? most + 1 : in(50) ? Integer.MIN_VALUE
                     : Integer.MAX_VALUE;
         }

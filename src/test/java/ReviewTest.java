@@ -212,6 +212,10 @@ final class ReviewTest {
         y.fact(0, 10, 12, 8);
         y.fact(0, 11, 12, 9);
         Check.due("as KNOWN as the REVIEW was decided", y.holds(0, 11, 8, 0), -1);
+        WaterReview w = new WaterReview();
+        w.firm(1);
+        w.fact(0, 0, 13, 44);
+        unless(w, 0, 12, "homes=44", true);
         WaterReview z = new WaterReview();
         z.firm(1);
         z.fact(0, 9, 12, 4);

@@ -316,6 +316,10 @@ final class TextTest {
         bad("log 5^, log 6;");
         bad("^lo g 5;");
         bad("^logs 5;");
+        bad("^logz 5;");
+        bad("^alog 5;");
+        bad("^zlog 5;");
+        bad("log ^500000;");
         bad("log 5 unless year^!5;");
         bad("log 5 unless year<^=5;");
         bad("log 5 ^" + (char) 233);

@@ -153,6 +153,11 @@ final class TriedTest {
         WaterReview y = firm(0, "");
         y.fact(0, 0, 3, 100);
         Check.due("without allow", y.hole(0, 0, 0, 1), NO);
+        WaterReview z = firm(0, "allow other plan 100;share other 0 50;");
+        z.fact(0, 0, 6, 1000);
+        Check.due("HOLE of head 3", z.hole(0, 3, 0, 0), 100);
+        z.fact(0, 0, 10, 1000);
+        Check.due("head 4 has no COST", z.hole(0, 4, 0, 0), NO);
     }
 
     private static void promise27PutBy() {
@@ -268,6 +273,15 @@ final class TriedTest {
         Check.due("one is", y.best(1, 100), 0);
         y.bench(0, 0, 6, 1);
         Check.due("as KNOWN TODAY", y.best(1, 99), 0);
+        for (int review = 0; review < 3; review++) {
+            WaterReview z = firm(1000, "");
+            put(z, "share run 100 0;");
+            z.fact(0, 5 * review, 3, 40);
+            z.fact(0, 5 * review + 4, 3, 50);
+            Check.due("within 90 in " + review, z.best(review, 90), 0);
+            Check.due("within 89 in " + review, z.best(review, 89), -1);
+            Check.due("within 0 in another one", z.best((review + 1) % 3, 0), 0);
+        }
     }
 
     private static void promise29AllFirmsAndYears() {
@@ -281,6 +295,12 @@ final class TriedTest {
         put(x, "return 12 unless year=9;return 1 unless not year=9;");
         Check.due("all YEARS together", x.best(1, 0), 3);
         Check.due("of REVIEW 0", x.best(0, 0), 2);
+        for (int review = 0; review < 3; review++) {
+            WaterReview u = firm(1000, "");
+            put(u, "return 10;");
+            put(u, "return 12 unless year=4 or year=9 or year=14;");
+            Check.due("the last YEAR of REVIEW " + review, u.best(review, 0), 1);
+        }
         WaterReview y = firm(1000, "wear 100 unless year=0;");
         y.fact(0, 9, 3, 5000);
         put(y, "allow run plan 100;");
@@ -292,6 +312,19 @@ final class TriedTest {
         put(z, "return 10;");
         put(z, "wear 50;return 15;");
         Check.due("WORTH by the RULES themselves", z.best(0, 0), 1);
+        WaterReview w = new WaterReview();
+        w.firm(1000);
+        Check.rules(w, 0, "index 90;");
+        put(w, "return 10 unless worth>999;");
+        put(w, "return 1;");
+        // 590 and less as REVIEW 1 begins: the RULES of REVIEW 0 count, though nothing asked ahead.
+        Check.due("WORTH by the RULES of the REVIEWS ahead", w.best(1, 0), 1);
+        WaterReview v = new WaterReview();
+        v.firm(999);
+        Check.rules(v, 0, "index 150;");
+        put(v, "return 10 unless worth>999;");
+        put(v, "return 1;");
+        Check.due("WORTH risen by them", v.best(1, 0), 0);
     }
 
     private static void promise29NoneSuch() {
