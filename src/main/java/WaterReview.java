@@ -9,6 +9,7 @@ public final class WaterReview {
     public static final int NONE = -1;
 
     private static final int NOT_TAKEN = -2;
+    private static final int NONE_SUCH = -2;
     private static final int TOO_MANY = -3;
     private static final int NO_ALLOWED = -2_000_000_000;
     private static final long NO_COINS = -2_000_000_000_000L;
@@ -427,7 +428,7 @@ public final class WaterReview {
 
     public int check(int firm, int year, int day) {
         if (!isFirmsYear(firm, year) || !isDay(day)) {
-            return NOT_TAKEN;
+            return NONE_SUCH;
         }
         openOwn(firm, year, day);
         sheet.fillLines(year, year);
