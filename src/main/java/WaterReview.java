@@ -747,7 +747,8 @@ public final class WaterReview {
             if (!isThere(work) || firms[work] != firm || due[work] >= year) {
                 return false;
             }
-            return doneOn[work] == NONE || doneOn[work] > year * YEAR_DAYS;
+            // What is DONE on a YEAR's first DAY is DONE in that YEAR: it wasn't yet as it began.
+            return doneOn[work] == NONE || doneOn[work] >= year * YEAR_DAYS;
         }
 
         int countLate(int firm, int year) {

@@ -12,6 +12,7 @@ final class LinesTest {
         promise19Return();
         promise19Works();
         promise19Back();
+        promise19BackAsAYearBegins();
         promise19BackInAll();
         promise19EarnedMore();
         promise19EarnedLess();
@@ -135,16 +136,37 @@ final class LinesTest {
         Check.due("33 hundredths of 7, cut", x.line(0, 3, 0, 6), -35);
         Check.due("50 hundredths of 7, cut", x.line(0, 5, 0, 6), -37);
         Check.due("2 of 7 are left", x.line(0, 6, 0, 6), -2);
-        x.day(300);
+        x.day(299);
         x.done(0);
-        Check.due("DONE as year 3 began", x.line(0, 3, 300, 6), -2);
-        Check.due("late in year 2", x.line(0, 2, 300, 6), -33);
-        Check.due("not in year 5", x.line(0, 5, 300, 6), -3);
-        x.day(301);
+        Check.due("DONE the day ahead of year 3", x.line(0, 3, 299, 6), -2);
+        Check.due("late in year 2", x.line(0, 2, 299, 6), -33);
+        Check.due("not in year 5", x.line(0, 5, 299, 6), -3);
+        x.day(300);
         x.done(2);
-        Check.due("DONE a day later", x.line(0, 3, 301, 6), -2);
-        Check.due("DONE ahead of year 5", x.line(0, 5, 301, 6), 0);
+        Check.due("DONE on the day on which year 3 begins", x.line(0, 3, 300, 6), -2);
+        Check.due("DONE ahead of year 5", x.line(0, 5, 300, 6), 0);
         Check.due("whatever the day asked by", x.line(0, 5, 0, 6), 0);
+    }
+
+    /** A work DONE in a year is late as that begins; its coins come to the next year's worth. */
+    private static void promise19BackAsAYearBegins() {
+        int[] days = {1, 99, 100, 101, 199, 200};
+        int[] backOfYear1 = {0, 0, -50, -50, -50, -50};
+        int[] backOfYear2 = {0, 0, 0, 0, 0, -30};
+        int[] worthOfYear1 = {80, 80, 0, 0, 0, 0};
+        int[] worthOfYear2 = {80, 80, 80, 80, 80, 0};
+        for (int i = 0; i < days.length; i++) {
+            WaterReview x = firm(0, "back 63;");
+            x.work(0, 80, 0);
+            x.day(days[i]);
+            Check.due("not DONE yet: year 1", x.line(0, 1, 0, 6), -50);
+            Check.due("not DONE yet: year 2", x.line(0, 2, 0, 6), -30);
+            x.done(0);
+            Check.due("BACK of year 1, DONE on " + days[i], x.line(0, 1, 0, 6), backOfYear1[i]);
+            Check.due("BACK of year 2, DONE on " + days[i], x.line(0, 2, 0, 6), backOfYear2[i]);
+            Check.due("WORTH of year 1, DONE on " + days[i], x.worth(0, 1), worthOfYear1[i]);
+            Check.due("WORTH of year 2, DONE on " + days[i], x.worth(0, 2), worthOfYear2[i]);
+        }
     }
 
     private static void promise19BackInAll() {

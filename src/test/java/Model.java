@@ -499,7 +499,7 @@ final class Model {
         }
 
         boolean late(Work w, int firm, int year) {
-            boolean doneByThen = w.done != NONE && w.done <= 100 * year;
+            boolean doneByThen = w.done != NONE && w.done < 100 * year;
             return w.firm == firm && w.due < year && !doneByThen;
         }
 

@@ -252,13 +252,13 @@ final class ReviewTest {
         Check.due("in year 13", x.holds(0, 13, 8, 0), 0);
         unless(x, 1, 12, "late=1", true);
         Check.due("not of the other firm", x.holds(0, 11, 8, 0), -1);
-        x.day(1200);
+        x.day(1199);
         x.done(0);
-        Check.due("DONE on the day on which the year began", x.holds(0, 12, 8, 0), -1);
+        Check.due("DONE the day ahead of year 12", x.holds(0, 12, 8, 0), -1);
         Check.due("late in the year ahead", x.holds(0, 11, 8, 0), -1);
-        x.day(1201);
+        x.day(1200);
         x.done(1);
-        Check.due("DONE a day later: late", x.holds(0, 12, 8, 0), -1);
+        Check.due("DONE on the day on which year 12 begins: late", x.holds(0, 12, 8, 0), -1);
         Check.due("both DONE ahead of year 13", x.holds(0, 13, 8, 0), -1);
         unless(x, 0, 13, "late=1", true);
         unless(x, 0, 12, "late=1", true);
