@@ -2,20 +2,47 @@
 final class Check {
     private static int wrong = 0;
     private static int made = 0;
+    private static String sentence = "";
+    private static int madeBeforeIt = 0;
 
     private Check() {
+    }
+
+    /**
+     * The answers from here on show that a sentence of the document holds. Where it stands there
+     * ("Terms 2", "Promise 11"), and its words as they stand; see Quotes.
+     */
+    static void says(String where, String words) {
+        mustHaveCompared();
+        sentence = where + ", \"" + words + "\": ";
+        madeBeforeIt = made;
+    }
+
+    private static void mustHaveCompared() {
+        if (!sentence.isEmpty() && made == madeBeforeIt) {
+            wrong++;
+            System.out.println(sentence + "nothing was compared");
+        }
     }
 
     static void due(String call, long got, long want) {
         made++;
         if (got != want) {
             wrong++;
-            System.out.println(call + " answered " + got + ", due is " + want);
+            System.out.println(sentence + call + " answered " + got + ", due is " + want);
         }
     }
 
     static void due(String call, boolean got, boolean want) {
         due(call, got ? 1L : 0L, want ? 1L : 0L);
+    }
+
+    static void isNot(String call, long got, long wrongOne) {
+        made++;
+        if (got == wrongOne) {
+            wrong++;
+            System.out.println(sentence + call + " answered " + got + ", due is another answer");
+        }
     }
 
     static int wrong() {
@@ -24,6 +51,7 @@ final class Check {
 
     /** Says how many were compared; ends the program with 1 if an answer was wrong. */
     static void end() {
+        mustHaveCompared();
         System.out.println(made + " answers compared, " + wrong + " not as due");
         if (wrong != 0) {
             System.exit(1);

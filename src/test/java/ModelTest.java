@@ -7,6 +7,7 @@ import java.util.List;
  * must be the same. With an argument: so many runs; with a second one: from that run on.
  */
 final class ModelTest {
+    private static final int MOST_CALLS = 512;
     private static final String[] QUERIES = {
         "known fyWd", "review rq", "holds fykg", "allowed fhyd", "points fhrvq", "worth fy",
         "line fydl", "revenue fyd", "bills fydo", "home fydq", "tried fy", "hole fhyt",
@@ -81,7 +82,7 @@ final class ModelTest {
         }
         int focus = below(3);
         int filled = 60 + below(200);
-        while (calls < 505) {
+        while (calls < MOST_CALLS) {
             boolean wasWrong = Check.wrong() > 0;
             if (calls < filled && in(85)) {
                 fact(run, calls++, focus);
@@ -252,6 +253,11 @@ final class ModelTest {
 
     /** Feeds a text and tells it as RULES or RULES BESIDE: how many calls it took. */
     private int text(int run, int call, int focus) {
+        int left = MOST_CALLS - call - 2;
+        if (left < 0) {
+            ask(run, call);
+            return 1;
+        }
         List<String> tokens = new ArrayList<>();
         boolean amends = in(30);
         if (amends) {
@@ -275,7 +281,7 @@ final class ModelTest {
             int at = below(text.length());
             text = text.substring(0, at) + (char) below(256) + text.substring(at + 1);
         }
-        text = text.length() > 900 ? text.substring(0, 900) : text;
+        text = text.substring(0, Math.min(text.length(), Math.min(900, 20 * left)));
         last = text;
         int calls = 0;
         for (int at = 0; at < text.length(); at += 20) {
