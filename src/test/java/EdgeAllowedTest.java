@@ -149,7 +149,34 @@ final class EdgeAllowedTest {
             }
         }
         pointsAre("the most POINTS", all, 2, 50, 49950, 4999950);
+        Story first = Story.ofFirms(1, 1).fact(0, 0, 0, 9).fact(1, 0, 0, 9);
+        first.answers("REVIEW 0 has no YEARS ahead", 0, x -> x.points(1, 0, 0, 0, 0));
+        first.answers("nor for FIRM 0", 0, x -> x.points(0, 0, 0, 0, 0));
+        byEachModeInEachYear();
         all.answers("of the last FIRM", 50, x -> x.points(10, 0, 2, 0, 0));
+    }
+
+    /** ALLOWED goes by the same POINTS in all YEARS of a REVIEW, for each FIRM and HEAD. */
+    private static void byEachModeInEachYear() {
+        String[] heads = {"run", "pipes", "power", "other"};
+        for (int head = 0; head < 4; head++) {
+            int h = head;
+            for (String mode : new String[] {"mean", "best", "line"}) {
+                Story s = by("allow " + heads[h] + " " + mode + " 2 100;", 3);
+                s.point(0, 4, 2, 1, h, 10).point(1, 4, 2, 1, h, 20).point(2, 4, 2, 1, h, 90);
+                s.point(0, 9, 2, 1, h, 50).point(1, 9, 2, 1, h, 60).point(2, 9, 2, 1, h, 70);
+                long[][] due = mode.equals("best") ? new long[][] {{20, 10, 10}, {60, 50, 50}}
+                        : new long[][] {{55, 50, 15}, {65, 60, 55}};
+                for (int year = 5; year < 15; year++) {
+                    for (int firm = 0; firm < 3; firm++) {
+                        int y = year;
+                        int f = firm;
+                        s.answers(mode + " of " + h + " for " + f + " in " + y, due[y / 10][f],
+                                x -> x.allowed(f, h, y, 0));
+                    }
+                }
+            }
+        }
     }
 
     private static void driver() {
@@ -168,6 +195,10 @@ final class EdgeAllowedTest {
             allows("in YEAR " + (5 + i), years, 5 + i, due[i]);
         }
         allows("KNOWN too late", Story.of(years).day(501).fact(0, 7, 0, 9), 7, 40);
+        Story line = withPoints(by("allow run line 0 100;", 2), 1, 10, 2, 30, 4, 40);
+        allows("0 without, by line", line, 5, 5);
+        allows("0 told, by line", Story.of(line).fact(0, 5, 0, 0), 5, 5);
+        allows("1 told, by line", Story.of(line).fact(0, 5, 0, 1), 5, 14);
         allows("KNOWN on the DAY", Story.of(years).day(500).fact(0, 7, 0, 9), 7, 90);
     }
 
@@ -252,6 +283,9 @@ final class EdgeAllowedTest {
         // 1 at 0, 0 at 3: a third at 2, nothing of which is left when it's cut.
         allows("cut to 0", mode("line", 2, 0, 1, 3, 0), 5, 0);
         allows("1 at 0", mode("line", 0, 0, 1, 3, 0), 5, 1);
+        // 3 at 0, 0 at 2: 1.5 below 0 at 3, three below at 4.
+        allows("cut to -1: 0 at least", mode("line", 3, 0, 3, 2, 0), 5, 0);
+        allows("-3: 0 at least", mode("line", 4, 0, 3, 2, 0), 5, 0);
         largestLine();
     }
 
@@ -398,7 +432,8 @@ final class EdgeAllowedTest {
         // One of two left out: the other's POINT, as mean.
         Story two = Story.ofFirms(1, 1, 1).point(1, 0, 0, 2, 0, 10).point(2, 0, 0, 4, 0, 50);
         spans("of two", two, 3, 30, 15, 37);
-        spans("what all tell is no end", two, 0, 0, 0, 0);
+        spans("nothing", two, 0, 0, 0, 0);
+        spans("all tell less than each", two, 1, 0, 5, 12);
         spans("all tell more than each", two, 999, 19950, 4995, 12487);
         // All POINTS of a FIRM are left out together.
         Story many = Story.of(two).point(1, 1, 0, 6, 0, 10);
@@ -509,6 +544,10 @@ final class EdgeAllowedTest {
             far.point(1, year, 0, 0, 0, 99999).fact(1, year, 1, year % 2 * 999);
         }
         moved("the largest", far, 1);
+        // DRIVER 0 has a POINT more than DRIVER 1, which tells both of its own.
+        Story fewer = Story.ofFirms(1, 1).point(1, 0, 0, 5, 0, 10).point(1, 1, 0, 5, 0, 30);
+        fewer.point(1, 2, 0, 7, 0, 1000).fact(1, 0, 1, 5).fact(1, 1, 1, 6);
+        moved("those of one DRIVER are nothing to another one", fewer, 1);
         // Fifty POINTS: DRIVER 0 tells all COSTS but that of the last, DRIVER 1 but that of the first.
         Story fifty = Story.ofFirms(1, 1, 1, 1, 1, 1, 1, 1, 1, 1, 1);
         for (int i = 0; i < 50; i++) {
@@ -525,6 +564,7 @@ final class EdgeAllowedTest {
         for (int head = 0; head < 4; head++) {
             s.point(1, 4, 0, 5, head, 9).point(2, 4, 0, 7, head, 10);
             s.point(1, 5, 0, 5, head, 9).point(2, 9, 0, 7, head, 10);
+            s.point(0, 0, 0, 5, head, 9);
         }
         s.bounds("moves", NONE, (x, a) -> x.moves(a[0], a[1], a[2]), new int[] {0, 0, 1},
                 new int[] {0, 2}, new int[] {0, 3}, new int[] {1, 2});

@@ -263,6 +263,15 @@ final class EdgeTriedTest {
                 40 + 30 - 20);
         bears("by the RULES of the YEAR", by("share run 50 0 unless year=6;", 0).fact(0, 5, 3, 10)
                 .fact(0, 6, 3, 10), 5);
+        Story kinds = by("share run 10 0;allow other plan 50;target 0 more 60 step 1 coin 1 dead 0"
+                + " cap 9;", 0);
+        for (int what = 0; what < 17; what++) {
+            if (what < 3 || what > 6) {
+                kinds.fact(0, 7, what, 100);
+            }
+        }
+        bears("no COST is among them", kinds, 0);
+        bears("one is", Story.of(kinds).fact(0, 7, 3, 100), 10);
         Story most = by("share run 100 0;share pipes 100 0;share power 100 0;share other 100 0;", 0);
         for (int year = 5; year < 10; year++) {
             for (int head = 0; head < 4; head++) {
@@ -353,6 +362,19 @@ final class EdgeTriedTest {
                 "return 6 unless firm=0;"), 0, 0, 0);
         bests("FIRMS together, the other way round", put(Story.of(s), "return 10 unless firm=1;",
                 "return 4 unless firm=0;"), 0, 0, 1);
+        for (int review = 0; review < 3; review++) {
+            // What is EARNED, or SHARED, in the last YEAR goes to a YEAR of the next REVIEW.
+            Story last = put(Story.ofFirms(1000).fact(0, 5 * review + 4, 14, 9).fact(0,
+                    5 * review + 4, 3, 900), "target 0 more 0 step 1 coin 999 dead 0 cap 9999;",
+                    "return 1;", "share run 50 50;return 1;");
+            bests("the YEAR behind isn't its own", last, review, 99999, 0);
+        }
+        // FIRMS with X 9 are ALLOWED 0 by a falling line, which tells 90 for X 0.
+        Story fall = Story.ofFirms(1000, 1000, 1000);
+        for (int firm = 0; firm < 3; firm++) {
+            fall.point(firm, 0, 0, 0, 0, 90).point(firm, 1, 0, 9, 0, 0);
+        }
+        bests("there are no more FIRMS", put(fall, "allow run line 0 100;", "return 1;"), 1, 0, 0);
         bests("a REVENUE below 0 is less", put(Story.of(s).work(0, 10, 0), "", "back 50;"), 0, 0, 1);
         // 535,199,497 for each FIRM in YEAR 14 alone: all together more than an int holds.
         Story most = new Story().rules(0, "index 150;");
