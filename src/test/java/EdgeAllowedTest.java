@@ -63,7 +63,7 @@ final class EdgeAllowedTest {
     }
 
     private static void asKnownAsItIsDecided() {
-        Check.says("Terms 3", "(all FACTS as KNOWN as the REVIEW is decided)");
+        Check.says("Terms 3", "else by \"allow\" (all FACTS as KNOWN as the REVIEW is decided)");
         Story s = by("allow run mean 0 100;allow pipes plan 100;", 2).fact(0, 4, 0, 1);
         s.fact(1, 4, 0, 1).fact(1, 4, 3, 5).fact(0, 5, 8, 6);
         Story on = Story.of(s).day(500).fact(0, 4, 0, 2).fact(1, 4, 3, 30).fact(0, 5, 8, 7);
@@ -116,8 +116,8 @@ final class EdgeAllowedTest {
     }
 
     private static void points() {
-        Check.says("Terms 3", "POINTS: all other FIRMS in the five YEARS ahead of the REVIEW, in"
-                + " which both the DRIVER and the COST are there;");
+        Check.says("Terms 3", "The others go by POINTS: all other FIRMS in the five YEARS ahead of"
+                + " the REVIEW, in which both the DRIVER and the COST are there;");
         for (int year = 0; year < 15; year++) {
             Story s = Story.ofFirms(1, 1).point(1, year, 0, 7, 0, 11);
             for (int review = 0; review < 3; review++) {
@@ -180,7 +180,7 @@ final class EdgeAllowedTest {
     }
 
     private static void driver() {
-        Check.says("Terms 3", "by X: its DRIVER of the latest YEAR up to that one that has one"
+        Check.says("Terms 3", "and by X: its DRIVER of the latest YEAR up to that one that has one"
                 + " (0 without).");
         Story s = by("allow run mean 0 100;", 2).point(1, 0, 0, 1, 0, 10);
         allows("without", s, 5, 0);

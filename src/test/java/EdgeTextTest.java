@@ -95,8 +95,8 @@ final class EdgeTextTest {
     }
 
     private static void grammar() {
-        Check.says("Terms 2", "[\"amend\" \";\"] {RULE [\"unless\" ANY] \";\" |"
-                + " \"strike\" NUMBER \";\"}.");
+        Check.says("Terms 2", "RULES are a text: [\"amend\" \";\"] {RULE [\"unless\" ANY]"
+                + " \";\" | \"strike\" NUMBER \";\"}.");
         good("");
         form("", "amend " + KINDS);
         form("log 5;", KINDS);
@@ -107,7 +107,7 @@ final class EdgeTextTest {
         form("log 5 ", "; unless");
         good("log 5;log 5;log 5;");
         good("log 5 unless year<5;log 6;");
-        Check.says("Terms 2", "\"allow\" HEAD (\"line\" | \"mean\" | \"best\") NUMBER NUMBER"
+        Check.says("Terms 2", "RULE: \"allow\" HEAD (\"line\" | \"mean\" | \"best\") NUMBER NUMBER"
                 + " | \"allow\" HEAD \"plan\" NUMBER");
         for (String head : HEADS.split(" ")) {
             form("allow ", HEADS);

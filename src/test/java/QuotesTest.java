@@ -5,22 +5,25 @@ import java.util.ArrayList;
 import java.util.Arrays;
 import java.util.List;
 import java.util.Map;
+import java.util.Set;
 import java.util.TreeMap;
 import java.util.regex.Matcher;
 import java.util.regex.Pattern;
 
 /**
- * No test of the class, but of its tests, run by hand: whether what they quote by Check.says stands
- * in the document where they say, and what of its Terms and Promises no test quotes.
+ * No test of the class, but of its tests: what they quote by Check.says stands in the document where
+ * they say, and there is no sentence of it that no test quotes.
  */
-final class Quotes {
+final class QuotesTest {
     private static final String TEXT = "\"((?:[^\"\\\\]|\\\\.)*)\"";
     private static final Pattern SAYS = Pattern.compile(
             "Check\\.says\\(\\s*" + TEXT + "\\s*,\\s*((?:" + TEXT + "\\s*\\+?\\s*)+)\\)");
-    private static final Pattern HEADING = Pattern.compile(
-            "(?m)^(?:## (Promise \\d+): .*|==== (\\d)\\. |(The constants): |## (Not promised)\n)");
+    private static final Pattern HEADING = Pattern.compile("(?m)^(?:## (Promise \\d+): .*"
+            + "|==== (\\d)\\. |(The constants): |## (What it is|The public face|Terms|Not promised)\n)");
+    /** EdgeFaceTest reads the face from the document itself; what isn't promised isn't tested. */
+    private static final Set<String> NEED_NO_QUOTES = Set.of("The public face", "Not promised");
 
-    private Quotes() {
+    private QuotesTest() {
     }
 
     public static void main(String[] args) throws IOException {
@@ -28,18 +31,21 @@ final class Quotes {
         Map<String, String> sections = sections(document);
         Map<String, boolean[]> quoted = new TreeMap<>();
         sections.forEach((name, text) -> quoted.put(name, new boolean[text.length()]));
-        int quotes = 0;
         try (var files = Files.list(Path.of("src/test/java"))) {
             for (Path file : files.filter(f -> f.toString().endsWith("Test.java")).toList()) {
                 Matcher says = SAYS.matcher(Files.readString(file));
                 while (says.find()) {
-                    quotes++;
                     mark(file, says.group(1), words(says.group(2)), sections, quoted);
                 }
             }
         }
-        System.out.println(quotes + " quotes");
-        sections.forEach((name, text) -> tellTheRest(name, text, quoted.get(name)));
+        for (String name : sections.keySet()) {
+            if (!NEED_NO_QUOTES.contains(name)) {
+                String rest = rest(sections.get(name), quoted.get(name));
+                Check.due(name + ", not quoted: " + rest, rest.isEmpty(), true);
+            }
+        }
+        Check.end();
     }
 
     private static String plain(String text) {
@@ -77,23 +83,19 @@ final class Quotes {
     private static void mark(Path file, String where, String words, Map<String, String> sections,
             Map<String, boolean[]> quoted) {
         int at = sections.getOrDefault(where, "").indexOf(words);
-        if (at < 0) {
-            System.out.println(file.getFileName() + ": not in " + where + ": " + words);
-            return;
+        Check.due(file.getFileName() + ": in " + where + " stands " + words, at >= 0, true);
+        if (at >= 0) {
+            Arrays.fill(quoted.get(where), at, at + words.length(), true);
         }
-        Arrays.fill(quoted.get(where), at, at + words.length(), true);
     }
 
-    private static void tellTheRest(String name, String text, boolean[] quoted) {
-        int from = 0;
-        for (int i = 0; i <= text.length(); i++) {
-            if (i == text.length() || quoted[i]) {
-                String rest = text.substring(from, i).trim();
-                if (rest.matches("(?s).*[a-zA-Z0-9].*")) {
-                    System.out.println(name + ", not quoted: " + rest);
-                }
-                from = i + 1;
-            }
+    /** What stands between the quotes, signs aside. */
+    private static String rest(String text, boolean[] quoted) {
+        StringBuilder all = new StringBuilder();
+        for (int i = 0; i < text.length(); i++) {
+            all.append(quoted[i] ? '|' : text.charAt(i));
         }
+        String rest = all.toString().replaceAll("\\|+", " | ").trim();
+        return rest.matches("(?s).*[a-zA-Z0-9].*") ? rest : "";
     }
 }
